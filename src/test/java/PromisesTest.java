@@ -21,6 +21,7 @@ public final class PromisesTest {
         test.crossings();
         test.keysOfRounds();
         test.firstOfTheFewest();
+        test.firstOfEquallyFew();
         test.at();
         test.linksAndLink();
         test.command();
@@ -323,11 +324,28 @@ public final class PromisesTest {
         checks.due("9: own places at first", 1, () -> noPieces.crossings(0));
         checkPlaces("8: without pieces by the own place", noPieces, 0, 0, 1, 1, 2, 2, 3, 0, 5, 1, 4, 2);
 
-        MatrixSheets wayUp = told(0, 4, 1, 3, 2, 3);
-        wayUp.draw(0);
-        checkPlaces("8: groups by number at first", wayUp, 0, 0, 1, 1, 2, 2, 3, 0, 4, 1);
-        wayUp.draw(1);
-        checkPlaces("8: the way down comes first", wayUp, 0, 0, 1, 1, 2, 2, 4, 0, 3, 1);
+        MatrixSheets wayDown = told(0, 4, 1, 3, 2, 3);
+        wayDown.draw(0);
+        checkPlaces("8: groups by number at first", wayDown, 0, 0, 1, 1, 2, 2, 3, 0, 4, 1);
+        wayDown.draw(1);
+        checkPlaces("8: the way down comes first", wayDown, 0, 0, 1, 1, 2, 2, 4, 0, 3, 1);
+
+        MatrixSheets wayUp = told(0, 3, 2, 3, 1, 4);
+        checks.due("8: the way up", 0, () -> wayUp.draw(1));
+        checkPlaces("8: the way up goes to row 0", wayUp, 0, 0, 2, 1, 1, 2, 3, 0, 4, 1);
+
+        MatrixSheets halves = told(0, 3, 1, 3, 0, 4);
+        checks.due("8: averages are not rounded", 0, () -> halves.draw(1));
+        checkPlaces("8: a half is more than 0", halves, 4, 0, 3, 1);
+    }
+
+    private void firstOfEquallyFew() {
+        MatrixSheets x = told(2, 3);
+        x.phase(0, 0);
+        x.phase(1, NONE);
+        x.phase(4, 1);
+        checks.due("8: none at first, none behind a round", 0, () -> x.draw(5));
+        checkPlaces("8: what there was at first stays", x, 3, 0, 4, 1);
     }
 
     /** Worked out by hand: round 1 has none, round 2 puts 7 behind 4 again (7 goes by its own place on the way up). */
