@@ -97,9 +97,9 @@ public final class MatrixSheets {
         return fewest;
     }
 
-    // In the calls that ask the sheet, what no sheet could have (below the
-    // first one) is refused ahead of the missing sheet; what only this sheet
-    // may lack can't be judged before there is one.
+    // In the calls that ask the sheet, an index below the first one is refused
+    // ahead of the missing sheet, as the document names that exception first;
+    // where the indices end is the sheet's to say, so that waits for one.
 
     public int crossings(int k) throws IndexOutOfBoundsException, IllegalStateException {
         need(k >= 0);
